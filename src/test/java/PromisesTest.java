@@ -667,6 +667,9 @@ public final class PromisesTest {
         for (int other : new int[] {-1, 5, LEAST, MOST}) {
             is("24 others", x.found(other), NONE);
         }
+        OneSided y = made("rooms 4;door a 0 to 1 plain;door b 0 to 3 plain;door c 3 to 2 plain;door d 1 to 2 plain;");
+        y.told(0, 2, true);
+        is("24 the least of equal ones: b and c, not a and d", y.found(4), 6);
     }
 
     private static void rests() {
