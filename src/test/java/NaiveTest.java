@@ -9,7 +9,7 @@ public final class NaiveTest {
     private static final int LARGE_CALLS = 4;
 
     private final Random random;
-    private final OneSided x = new OneSided();
+    private final Lasting x = new Lasting();
     private final Maker maker;
     private Naive naive;
     private String text;
@@ -34,7 +34,7 @@ public final class NaiveTest {
             naive = maker.quarter(mostRooms, mostDoors, 6);
             text = maker.text();
         } while (text.length() > 1000 || naive.doors.size() * 2 < mostDoors);
-        DUE.same("feed " + text, Due.feed(x, text), text.length());
+        DUE.same("feed " + text, x.feed(text), text.length());
         DUE.same("quarter " + text, x.quarter(), 0);
         told();
         for (int i = 0; i < calls; i++) {
@@ -97,7 +97,7 @@ public final class NaiveTest {
             DUE.same("undo", x.undo(), naive.undo());
         } else if (which == 15) {
             String day = maker.day(naive, 24);
-            same("day " + day, Due.day(x, day), 0);
+            same("day " + day, x.day(day), 0);
         } else if (which == 16) {
             int from = room();
             int to = otherRoom(from);

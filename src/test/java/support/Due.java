@@ -48,7 +48,8 @@ final class Due {
         return x;
     }
 
-    private static long piece(String text, int from) {
+    /** Eight signs as one number, the highest byte first; 0 behind the text's end. */
+    static long piece(String text, int from) {
         long bytes = 0;
         for (int i = from; i < from + 8; i++) {
             bytes = bytes << 8 | (i < text.length() ? text.charAt(i) : 0);
