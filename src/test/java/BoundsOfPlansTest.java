@@ -165,6 +165,21 @@ public final class BoundsOfPlansTest {
         OneSided soon = DOC.made("rooms 3;door aa 0 to 1 plain open 2 to 9;door bb 0 to 2 plain;door cc 2 to 1 plain;"
             + "door dd 1 to 0 plain;person pp tenant at 0 errand 1 by 9;");
         isWay(soon, 1, 2, 3);
+        OneSided cat = DOC.made("rooms 3;door aa 2 to 1 plain;door bb 1 to 0 plain;person pp cat at 0 errand 2 by 9;");
+        isWay(cat, 1, 0, 0, 1);
+        DOC.is("so soon", cat.errand(0, NONE), 3);
+        OneSided noon = DOC.made("rooms 2;door aa 0 to 1 turning;door bb 1 to 0 plain open 13 to 14;person pp tenant at 0 errand 1 by 9;");
+        isWay(noon, 0, 0);
+        DOC.is("back at noon", noon.errand(0, NONE), 12);
+        OneSided waits = DOC.made("rooms 4;door aa 0 to 1 plain open 3 to 4;door bb 0 to 2 plain open 2 to 3;door cc 2 to 1 plain open 2 to 4;"
+            + "door dd 1 to 3 plain open 3 to 5;door ee 3 to 0 plain open 5 to 6;person pp tenant at 0 errand 3 by 9;");
+        isWay(waits, 0, 3, 4);
+        DOC.is("so soon", waits.errand(0, NONE), 5);
+        waits.shut(0, true);
+        isWay(waits, 1, 2, 3, 4);
+        OneSided closed = DOC.made("rooms 4;door aa 0 to 1 plain;door bb 1 to 3 plain open 0 to 1;door cc 1 to 2 plain;door dd 2 to 3 plain;"
+            + "door ee 3 to 0 plain;person pp tenant at 0 errand 3 by 9;");
+        isWay(closed, 0, 2, 3, 4);
         OneSided gone = round(0);
         gone.go(0, 0);
         isWay(gone, 1, 2, 3);
@@ -304,6 +319,19 @@ public final class BoundsOfPlansTest {
         DOC.is("for a cat it is one", chain.turn(CAT, 0), 0);
         OneSided all = DOC.made(manyDoors("", 14));
         DOC.is("the first of 14", all.turn(TENANT, 0), 1);
+        DOC.is("all 14", DOC.made(allBackwards()).turn(TENANT, 0), 16383);
+    }
+
+    /** A ring of six rooms and four more beside it: each door lets one by only into its first room. */
+    private static String allBackwards() {
+        int[] from = {0, 1, 2, 3, 4, 5, 0, 6, 1, 7, 2, 8, 3, 9};
+        int[] to = {1, 2, 3, 4, 5, 0, 6, 0, 7, 1, 8, 2, 9, 3};
+        StringBuilder text = new StringBuilder("rooms 10;let room = cost;");
+        for (int i = 0; i < 14; i++) {
+            text.append("door d").append((char) ('a' + i)).append(' ').append(to[i]).append(" to ").append(from[i]);
+            text.append(" plain price ").append(to[i]).append(';');
+        }
+        return text.toString();
     }
 
     /** Two rooms, and doors from the first to the second one. */
@@ -356,6 +384,17 @@ public final class BoundsOfPlansTest {
         DOC.is("who waits behind one", opens.crowd(0, 2, 5), 3);
         DOC.is("and an hour more", opens.crowd(0, 2, 6), 4);
         DOC.is("then all is shut", opens.crowd(0, 2, 23), 4);
+        OneSided sorts = DOC.made("rooms 2;door aa 0 to 1 plain for tenant;door bb 0 to 1 plain for soldier holds 9;");
+        DOC.is("of tenants", sorts.crowd(0, 1, 0), 1);
+        OneSided noon = DOC.made("rooms 2;door aa 0 to 1 turning;");
+        DOC.is("ahead of noon", noon.crowd(0, 1, 23), 12);
+        DOC.is("from noon on", noon.crowd(1, 0, 23), 12);
+        OneSided elsewhere = DOC.made("rooms 4;door aa 0 to 1 plain open 0 to 1;door bb 0 to 2 plain open 0 to 1;"
+            + "door dd 1 to 2 plain open 1 to 2;door cc 1 to 3 plain open 1 to 2;door ee 2 to 3 plain open 2 to 3;");
+        DOC.is("the first goes by cc, so that the other can by ee", elsewhere.crowd(0, 3, 2), 2);
+        OneSided behind = DOC.made("rooms 3;door aa 2 to 0 plain open 2 to 4 holds 3;door bb 2 to 1 plain open 0 to 2 holds 3;"
+            + "door cc 1 to 0 plain open 0 to 3 holds 3;door dd 0 to 1 plain open 2 to 4;");
+        DOC.is("six by bb, one by dd in hour 3", behind.crowd(2, 1, 6), 7);
     }
 
     private static void told() {
@@ -415,6 +454,18 @@ public final class BoundsOfPlansTest {
         DOC.is("in some", idle.found(2), 7);
         idle.hours(24);
         DOC.is("nobody comes at the end", idle.found(0), NONE);
+        OneSided sorts = DOC.made("rooms 2;door aa 0 to 1 plain for tenant;door bb 0 to 1 plain for soldier;door cc 0 to 1 turning;");
+        sorts.told(0, 1, true);
+        DOC.is("by tenants: aa or cc", sorts.found(0), 6);
+        sorts.told(1, 0, false);
+        sorts.hours(12);
+        DOC.is("from noon on aa, not cc", sorts.found(0), 2);
+        DOC.is("aa in all", sorts.found(1), 1);
+        DOC.is("bb in some", sorts.found(2), 3);
+        OneSided turned = DOC.made("rooms 2;door aa 0 to 1 turning;");
+        turned.hours(12);
+        turned.told(1, 0, true);
+        DOC.is("aa, the other way", turned.found(4), 1);
     }
 
     private static void foundPair() {
@@ -443,6 +494,21 @@ public final class BoundsOfPlansTest {
         DOC.is("aa and bb", x.found(4), 3);
         x.shut(0, true);
         DOC.is("no set", x.found(4), NONE);
+        StringBuilder text = new StringBuilder("rooms 10;");
+        for (int i = 0; i < 9; i++) {
+            text.append("door d").append((char) ('a' + i)).append(' ').append(i).append(" to ").append(i + 1).append(" plain;");
+        }
+        for (int i = 1; i < 10; i += 2) {
+            text.append("door e").append((char) ('a' + i)).append(' ').append(i).append(" to ").append(i - 1).append(" plain;");
+        }
+        OneSided all = DOC.made(text.toString());
+        all.told(0, 9, true);
+        DOC.is("nine", all.found(4), 511);
+        for (int i = 1; i < 10; i += 2) {
+            all.told(i, i - 1, true);
+        }
+        DOC.is("all 14", all.found(4), 16383);
+        DOC.is("one set", all.found(0), 1);
     }
 
     private static void rentsPrices() {
@@ -502,6 +568,14 @@ public final class BoundsOfPlansTest {
         OneSided row = DOC.made("rooms 3;door aa 0 to 1 hinge;door bb 1 to 2 hinge;door cc 0 to 2 plain price 9;"
             + "person pp tenant at 0 errand 2 by 9;");
         DOC.is("both in a row, cc is dearer: they sum to 8, or none goes", row.rests(0, 1, 0), 8);
+        OneSided cats = DOC.made("rooms 3;door aa 1 to 0 hinge;door bb 2 to 1 hinge;person pp cat at 0 errand 1 by 9;"
+            + "person qq cat at 1 errand 2 by 9;person rr cat at 1 errand 2 by 9;let sort = 3 and cost < 8;");
+        DOC.is("cats go back through both", cats.rests(0, 1, NONE), 1);
+        DOC.is("7 and 7", cats.rests(1, 0, 0), 77);
+        OneSided many = DOC.made("rooms 2;door aa 0 to 1 hinge;door bb 0 to 1 hinge for child;person pp tenant at 0 errand 1 by 9;"
+            + "person qq child at 0 errand 1 by 9;person rr child at 0 errand 1 by 9;let cost < 4 or sort = 2;");
+        DOC.is("3 of pp alone is no more than 1 of each", many.rests(0, 1, NONE), 1);
+        DOC.is("1 and 1", many.rests(0, 1, 0), 11);
         OneSided each = DOC.made("rooms 2;door aa 0 to 1 hinge;door bb 1 to 0 hinge;person pp tenant at 0 errand 1 by 9;"
             + "person qq tenant at 1 errand 0 by 9;");
         DOC.is("each alone", each.rests(0, 1, NONE), 1);
@@ -533,6 +607,9 @@ public final class BoundsOfPlansTest {
         DOC.is("never the other way", ten.chase(9, 8), NONE);
         OneSided star = DOC.made("rooms 3;door aa 0 to 1 plain;door bb 1 to 0 plain;door cc 0 to 2 plain;door dd 2 to 0 plain;");
         DOC.is("in a corner", star.chase(1, 0), 2);
+        OneSided sorts = DOC.made("rooms 2;door aa 0 to 1 plain for tenant;door bb 1 to 0 plain for soldier;");
+        DOC.is("both as tenants: aa", sorts.chase(1, 0), 2);
+        DOC.is("not bb", sorts.chase(0, 1), NONE);
         DOC.is("he waits in it", star.chase(1, 2), 4);
         DOC.is("he flees into one", star.chase(0, 1), 4);
     }
@@ -723,6 +800,7 @@ public final class BoundsOfPlansTest {
             DOC.is("errands", x.person(0, 5), mark >= 2 ? 1 : 0);
             DOC.is("the day", x.count(6), mark);
             DOC.is("told", x.count(7), mark);
+            DOC.is("as it was told", x.found(1), mark == 0 ? 0 : NONE);
             DOC.is("nothing can be undone", x.count(8), 0);
             DOC.is("nothing is undone", x.undo(), false);
             x.shut(3, true);
@@ -730,5 +808,22 @@ public final class BoundsOfPlansTest {
         }
         DOC.is("no mark 4", x.mark(4, false), false);
         DOC.is("no mark -1", x.mark(-1, false), false);
+        OneSided walks = round(0);
+        walks.mark(0, false);
+        walks.told(0, 2, true);
+        Due.day(walks, "go pp ab;hour;go pp bc;");
+        walks.mark(1, false);
+        walks.mark(0, true);
+        walks.told(3, 0, false);
+        Due.day(walks, "go qq ab;hour;hour;");
+        walks.mark(2, false);
+        walks.mark(1, true);
+        DOC.is("the walk from 0 to 2", walks.found(1), 3);
+        DOC.is("pp's day", walks.judged(0), 2);
+        DOC.is("not qq's", walks.judged(1), 0);
+        walks.mark(2, true);
+        DOC.is("that none came from 3 to 0", walks.found(2), 7);
+        DOC.is("qq's day", walks.judged(1), 1);
+        DOC.is("not pp's", walks.judged(0), 0);
     }
 }

@@ -34,6 +34,7 @@ public final class BoundsOfTextsTest {
         faultLeast();
         faultKinds();
         newQuarter();
+        oneBehindAnother();
         atFirst();
         DOC.end();
     }
@@ -641,6 +642,30 @@ public final class BoundsOfTextsTest {
         DOC.is("its lines", x.count(6), 2);
         Due.day(x, "");
         DOC.is("an empty one", x.count(6), 0);
+    }
+
+    /** Nothing of what was read ahead is seen, whether it had a fault or not. */
+    private static void oneBehindAnother() {
+        DOC.says("Without a FAULT a QUARTER is the QUARTER from then on");
+        OneSided x = new OneSided();
+        String[] texts = {manyDoors(3) + "let 0;", manyPeople(2), manyDoors(1), manyPeople(6) + "let 1;let", manyDoors(14) + "door",
+            "rooms 2;", "rooms 2;let 1;", TOLD};
+        int[][] counts = {{10, 3, 0}, {6, 0, 2}, {10, 1, 0}, {10, 1, 0}, {10, 1, 0}, {2, 0, 0}, {2, 0, 0}, {3, 1, 1}};
+        int[] leads = {NONE, NONE, 9, 9, 9, NONE, NONE, 1};
+        for (int i = 0; i < texts.length; i++) {
+            Due.quarter(x, texts[i]);
+            for (int what = 0; what < 3; what++) {
+                DOC.is("count " + what + " behind text " + i, x.count(what), counts[i][what]);
+            }
+            DOC.is("a door leads behind text " + i, x.leads(0, 0, 0, 0), leads[i]);
+            DOC.is("a walk is told behind text " + i, x.told(0, 1, true), true);
+            DOC.is("by which door behind text " + i, x.found(1), leads[i] == 1 ? 1 : NONE);
+        }
+        OneSided y = DOC.made(TOLD);
+        y.told(0, 1, true);
+        Due.quarter(y, TOLD);
+        y.told(0, 1, false);
+        DOC.is("that one could not, now", y.found(2), 0);
     }
 
     private static void atFirst() {
