@@ -98,12 +98,12 @@ public final class NaiveTest {
         } else if (which == 15) {
             String day = maker.day(naive, 24);
             same("day " + day, x.day(day), 0);
-        } else if (which == 16) {
+        } else if (which == 16 || which == 18) {
             int from = room();
             int to = otherRoom(from);
             boolean came = random.nextBoolean();
             DUE.same("told", x.told(from, to, came), naive.tell(from, to, came));
-        } else if (which == 17) {
+        } else if (which == 17 || which == 19) {
             int mark = random.nextInt(4);
             boolean back = random.nextBoolean();
             DUE.same("mark", x.mark(mark, back), naive.mark(mark, back));
