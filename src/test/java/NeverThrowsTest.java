@@ -4,7 +4,7 @@ import java.util.Random;
 public final class NeverThrowsTest {
     private static final Due DUE = new Due("NeverThrowsTest");
     // With the calls that feed a quarter fewer than 512.
-    private static final int MOST_CALLS = 460;
+    private static final int MOST_CALLS = 440;
     private static final int[] NUMBERS = {
         Integer.MIN_VALUE, -100, -3, -2, -1, 0, 1, 2, 3, 4, 5, 9, 10, 11, 13, 14, 15, 23, 24, 25, 31, 32, 33,
         60, 61, 99, 9999, 10000, 65536, Integer.MAX_VALUE
